@@ -815,7 +815,10 @@ public final class FareLimits {
         }
     }
 
-    /** What seats are worth: a row a stage, made once and kept until something changes. */
+    /**
+     * What seats are worth: a row a stage, made once and kept until something changes.
+     * Row 0 and place 0 of each row are never written: they stay 0.0.
+     */
     private static final class Worths {
         private final Plan plan;
         private final double[][] rows = new double[STAGES + 1][MOST_SEATS + 1];
@@ -831,23 +834,18 @@ public final class FareLimits {
         }
 
         double[] row(int t) {
-            for (int i = made; i <= t; i++) {
+            for (int i = made + 1; i <= t; i++) {
                 make(i);
             }
-            made = Math.max(made, t + 1);
+            made = Math.max(made, t);
             return rows[t];
         }
 
         private void make(int t) {
-            if (t == 0) {
-                Arrays.fill(rows[0], 0.0);
-                return;
-            }
             double shows = plan.showing(t - 1);
             for (int f = 0; f < plan.fareCount; f++) {
                 nets[f] = plan.netBy(f, shows);
             }
-            rows[t][0] = 0.0;
             for (int s = 1; s <= plan.rules[SEATS]; s++) {
                 rows[t][s] = worthOf(rows[t - 1], s, phaseOf(t));
             }
@@ -952,17 +950,13 @@ public final class FareLimits {
             return row[k];
         }
 
-        /** No double here is NaN, infinite, -0.0, or nearer to 0 than 2 to the power -900. */
+        /** No double here is NaN, infinite, -0.0, beyond a million, or nearer to 0 than 2 to the power -900. */
         static long bitsOfDouble(double x) {
             if (x == 0.0) {
                 return 0L;
             }
             double scaled = x < 0.0 ? -x : x;
             int exponent = 1023;
-            for (int i = 0; i < 32 && scaled >= 4294967296.0; i++) {
-                scaled = scaled / 4294967296.0;
-                exponent += 32;
-            }
             for (int i = 0; i < 32 && scaled < 1.0; i++) {
                 scaled = scaled * 4294967296.0;
                 exponent -= 32;

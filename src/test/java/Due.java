@@ -20,6 +20,10 @@ final class Due {
         is(what, isSo ? 1 : 0, 1);
     }
 
+    static void same(String what, String got, String want) {
+        holds(what + ": " + got + " is " + want, got.equals(want));
+    }
+
     static int wrong() {
         return wrong;
     }

@@ -1275,7 +1275,7 @@ public final class FareLimits {
             return NONE;
         }
 
-        /** Had one known all who ask, the dearest would have been had: seats left less than asked. */
+        /** Had one known of all who ask, one would have had the dearest of them, as far as seats go. */
         int pricesBehind() {
             int sum = 0;
             int gone = 0;

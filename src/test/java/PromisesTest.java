@@ -59,33 +59,6 @@ public final class PromisesTest {
         Due.end("PromisesTest");
     }
 
-    private static void feed(FareLimits x, String text) {
-        x.clear();
-        for (char c : text.toCharArray()) {
-            x.feed(c);
-        }
-    }
-
-    private static int book(FareLimits x, String text) {
-        feed(x, text);
-        return x.book();
-    }
-
-    private static int replay(FareLimits x, String text, int what) {
-        feed(x, text);
-        return x.replay(what);
-    }
-
-    private static int byHand(FareLimits x, String text, int what) {
-        feed(x, text);
-        return x.byHand(what);
-    }
-
-    private static int ends(FareLimits x, String text) {
-        feed(x, text);
-        return x.ends();
-    }
-
     private static long bits(double d) {
         return Double.doubleToLongBits(d);
     }
@@ -583,9 +556,9 @@ public final class PromisesTest {
     // promise 24
     private static void book() {
         FareLimits x = new FareLimits();
-        Due.is("book one", book(x, "m=0:1"), 1);
+        Due.is("book one", Calls.book(x, "m=0:1"), 1);
         Due.is("the tape is empty then", x.told(6), 0);
-        Due.is("book three", book(x, "zz=13:0042*07;a=0123:9999*99;mm=2:5*0"), 3);
+        Due.is("book three", Calls.book(x, "zz=13:0042*07;a=0123:9999*99;mm=2:5*0"), 3);
         Due.is("routes", x.told(5), 4);
         Due.same("book order", spelled(x), "a=0123:9999*99;m=0:1;mm=2:5;zz=13:42*7");
     }
@@ -601,7 +574,7 @@ public final class PromisesTest {
             3, 4, 4, 5, 19, 1, 0};
         for (int i = 0; i < texts.length; i++) {
             FareLimits x = new FareLimits();
-            Due.is("book " + texts[i], book(x, texts[i]), -100 - places[i]);
+            Due.is("book " + texts[i], Calls.book(x, texts[i]), -100 - places[i]);
             Due.is("no route comes by " + texts[i], x.told(5), 0);
             Due.is("the tape is empty behind " + texts[i], x.told(6), 0);
         }
@@ -609,32 +582,32 @@ public final class PromisesTest {
 
     private static void bookIsLookedAtAtOnce() {
         FareLimits x = new FareLimits();
-        book(x, "ab=0:1;abc=1:2");
-        Due.is("a name there is", book(x, "q=0:1;ab=0:1"), -106);
-        Due.is("a name there is, ahead of the byte behind", book(x, "q=0:1;ab!"), -106);
-        Due.is("a name there is, at the end", book(x, "q=0:1;abc"), -106);
-        Due.is("three letters are taken", book(x, "abcd=0:1"), -100);
-        Due.is("a name that there isn't", book(x, "abd!"), -103);
-        Due.is("a name of the text", book(x, "q=0:1;r=0:1;q=0:1"), -112);
-        Due.is("price 0", book(x, "q=0:0"), -104);
-        Due.is("price 0000", book(x, "q=0:0000"), -104);
-        Due.is("four figures are taken", book(x, "q=0:00001"), -104);
-        Due.is("price 0, ahead of the byte behind", book(x, "q=0:0!"), -104);
-        Due.is("wanted 00 may be", book(x, "q=0:1*00"), 1);
+        Calls.book(x, "ab=0:1;abc=1:2");
+        Due.is("a name there is", Calls.book(x, "q=0:1;ab=0:1"), -106);
+        Due.is("a name there is, ahead of the byte behind", Calls.book(x, "q=0:1;ab!"), -106);
+        Due.is("a name there is, at the end", Calls.book(x, "q=0:1;abc"), -106);
+        Due.is("three letters are taken", Calls.book(x, "abcd=0:1"), -100);
+        Due.is("a name that there isn't", Calls.book(x, "abd!"), -103);
+        Due.is("a name of the text", Calls.book(x, "q=0:1;r=0:1;q=0:1"), -112);
+        Due.is("price 0", Calls.book(x, "q=0:0"), -104);
+        Due.is("price 0000", Calls.book(x, "q=0:0000"), -104);
+        Due.is("four figures are taken", Calls.book(x, "q=0:00001"), -104);
+        Due.is("price 0, ahead of the byte behind", Calls.book(x, "q=0:0!"), -104);
+        Due.is("wanted 00 may be", Calls.book(x, "q=0:1*00"), 1);
         Due.is("routes", x.told(5), 3);
     }
 
     private static void bookIsFull() {
         FareLimits x = new FareLimits();
-        Due.is("twelve", book(x, "a=0:1;b=0:1;c=0:1;d=0:1;e=0:1;f=0:1;g=0:1;h=0:1;i=0:1;j=0:1;k=0:1;l=0:1"), 12);
-        Due.is("no room", book(x, "m=0:1"), -100);
-        Due.is("no room, ahead of the byte behind", book(x, "m!"), -100);
-        ends(x, "a");
-        Due.is("no room for the second", book(x, "m=0:1;n!"), -106);
+        Due.is("twelve", Calls.book(x, "a=0:1;b=0:1;c=0:1;d=0:1;e=0:1;f=0:1;g=0:1;h=0:1;i=0:1;j=0:1;k=0:1;l=0:1"), 12);
+        Due.is("no room", Calls.book(x, "m=0:1"), -100);
+        Due.is("no room, ahead of the byte behind", Calls.book(x, "m!"), -100);
+        Calls.ends(x, "a");
+        Due.is("no room for the second", Calls.book(x, "m=0:1;n!"), -106);
         Due.is("nothing came", x.told(5), 11);
-        Due.is("room for one", book(x, "m=0:1"), 1);
+        Due.is("room for one", Calls.book(x, "m=0:1"), 1);
         FareLimits y = new FareLimits();
-        Due.is("thirteen", book(y, "a=0:1;b=0:1;c=0:1;d=0:1;e=0:1;f=0:1;g=0:1;h=0:1;i=0:1;j=0:1;k=0:1;l=0:1;m"),
+        Due.is("thirteen", Calls.book(y, "a=0:1;b=0:1;c=0:1;d=0:1;e=0:1;f=0:1;g=0:1;h=0:1;i=0:1;j=0:1;k=0:1;l=0:1;m"),
             -172);
         Due.is("none of thirteen", y.told(5), 0);
     }
@@ -642,25 +615,25 @@ public final class PromisesTest {
     // promise 25
     private static void ends() {
         FareLimits x = new FareLimits();
-        Due.is("ends none", ends(x, "a"), -1);
-        book(x, "ab=0:1;abc=1:2;b=3:4");
-        Due.is("ends a", ends(x, "a"), -1);
+        Due.is("ends none", Calls.ends(x, "a"), -1);
+        Calls.book(x, "ab=0:1;abc=1:2;b=3:4");
+        Due.is("ends a", Calls.ends(x, "a"), -1);
         Due.is("the tape is empty then", x.told(6), 0);
-        Due.is("ends nothing", ends(x, ""), -1);
-        Due.is("ends abcd", ends(x, "abcd"), -1);
-        Due.is("ends ab=", ends(x, "ab="), -1);
-        Due.is("ends ab", ends(x, "ab"), 2);
+        Due.is("ends nothing", Calls.ends(x, ""), -1);
+        Due.is("ends abcd", Calls.ends(x, "abcd"), -1);
+        Due.is("ends ab=", Calls.ends(x, "ab="), -1);
+        Due.is("ends ab", Calls.ends(x, "ab"), 2);
         Due.is("the tape is empty", x.told(6), 0);
         Due.same("they are left", spelled(x), "abc=1:2;b=3:4");
-        Due.is("ends ab again", ends(x, "ab"), -1);
-        Due.is("ends b", ends(x, "b"), 1);
-        Due.is("ends abc", ends(x, "abc"), 0);
+        Due.is("ends ab again", Calls.ends(x, "ab"), -1);
+        Due.is("ends b", Calls.ends(x, "b"), 1);
+        Due.is("ends abc", Calls.ends(x, "abc"), 0);
     }
 
     // promise 26
     private static void route() {
         FareLimits x = new FareLimits();
-        book(x, "xyz=02:70*8;b=3:5");
+        Calls.book(x, "xyz=02:70*8;b=3:5");
         int[][] want = {{8, 5, 0, 1, 1}, {5, 70, 8, 1, 3}};
         for (int i = 0; i < 2; i++) {
             for (int what = 0; what < 5; what++) {
@@ -683,7 +656,7 @@ public final class PromisesTest {
     // promise 27
     private static void part() {
         FareLimits x = new FareLimits();
-        book(x, "a=013:9973");
+        Calls.book(x, "a=013:9973");
         x.leg(0, 0, 7919);
         x.leg(1, 0, 9901);
         x.leg(3, 0, 3);
@@ -701,7 +674,7 @@ public final class PromisesTest {
     // promise 28
     private static void cost() {
         FareLimits x = new FareLimits();
-        book(x, "a=0:50*4;b=0:70*4;c=0:60*4");
+        Calls.book(x, "a=0:50*4;b=0:70*4;c=0:60*4");
         Due.is("cost: 12 above 10", x.cost(0), bits(50f));
         x.leg(0, 1, 8);
         Due.is("cost: 8 isn't above 8", x.cost(0), bits(50f));
@@ -711,7 +684,7 @@ public final class PromisesTest {
         Due.is("cost: none", x.cost(0), 0);
         x.leg(0, 1, 0);
         Due.is("cost: the first", x.cost(0), bits(70f));
-        book(x, "aa=01:140*0");
+        Calls.book(x, "aa=01:140*0");
         Due.is("cost: nobody wants the first by name", x.cost(0), bits(70f));
         Due.is("cost of another leg", x.cost(1), 0);
         Due.is("cost 4", x.cost(4), -1);
@@ -721,7 +694,7 @@ public final class PromisesTest {
     /** LET IN, told by route. */
     private static void letIn() {
         FareLimits x = new FareLimits();
-        book(x, "a=0:50*99;b=1:40*99;c=01:90*1;d=01:89*1;e=2:1");
+        Calls.book(x, "a=0:50*99;b=1:40*99;c=01:90*1;d=01:89*1;e=2:1");
         Due.is("costs", x.cost(0), bits(50f));
         Due.is("costs", x.cost(1), bits(40f));
         Due.is("as much as the costs", x.route(2, 3), 1);
@@ -733,24 +706,24 @@ public final class PromisesTest {
     private static void replay() {
         FareLimits x = twoFares();
         x.rule(0, 1);
-        Due.is("with 2 to go b isn't taken, with 1 it is", replay(x, "bb", 0), 100);
-        Due.is("how many", replay(x, "bb", 1), 1);
-        Due.is("left", replay(x, "bb", 2), 0);
-        Due.is("which", replay(x, "bb", 3), 2);
-        Due.is("behind", replay(x, "bb", 4), 100);
-        Due.is("behind: the greatest", replay(x, "bab", 4), 300);
-        Due.is("nobody asks", replay(x, "b-", 1), 0);
-        Due.is("nobody asks at all", replay(x, "--------------------", 2), 1);
+        Due.is("with 2 to go b isn't taken, with 1 it is", Calls.replay(x, "bb", 0), 100);
+        Due.is("how many", Calls.replay(x, "bb", 1), 1);
+        Due.is("left", Calls.replay(x, "bb", 2), 0);
+        Due.is("which", Calls.replay(x, "bb", 3), 2);
+        Due.is("behind", Calls.replay(x, "bb", 4), 100);
+        Due.is("behind: the greatest", Calls.replay(x, "bab", 4), 300);
+        Due.is("nobody asks", Calls.replay(x, "b-", 1), 0);
+        Due.is("nobody asks at all", Calls.replay(x, "--------------------", 2), 1);
         x.rule(0, 2);
-        Due.is("with seats for both", replay(x, "bb", 3), 3);
-        Due.is("none is left", replay(x, "aaa", 3), 3);
-        Due.is("behind: as many as seats", replay(x, "ba-ba", 4), 600);
-        Due.is("behind: each once", replay(x, "bab", 4), 400);
-        Due.is("behind: fewer than seats", replay(x, "-b", 4), 100);
+        Due.is("with seats for both", Calls.replay(x, "bb", 3), 3);
+        Due.is("none is left", Calls.replay(x, "aaa", 3), 3);
+        Due.is("behind: as many as seats", Calls.replay(x, "ba-ba", 4), 600);
+        Due.is("behind: each once", Calls.replay(x, "bab", 4), 400);
+        Due.is("behind: fewer than seats", Calls.replay(x, "-b", 4), 100);
         x.rule(0, 0);
-        Due.is("no seats", replay(x, "aa", 0), 0);
-        Due.is("no seats, behind", replay(x, "aa", 4), 0);
-        feed(x, "ab");
+        Due.is("no seats", Calls.replay(x, "aa", 0), 0);
+        Due.is("no seats, behind", Calls.replay(x, "aa", 4), 0);
+        Calls.tape(x, "ab");
         Due.is("replay what 5", x.replay(5), -1);
         Due.is("replay what -1", x.replay(-1), -1);
         Due.is("the tape stays", x.told(6), 2);
@@ -759,18 +732,18 @@ public final class PromisesTest {
     }
 
     private static void requestsFaults() {
-        FareLimits x = twoFares();
         String[] texts = {"", "abc", "A", "`", "ab-`", "aa--aaaaaaaaaaaaaaaaa", "aaaaaaaaaaaaaaaaaaaac", "a b"};
         int[] places = {0, 2, 0, 0, 3, 20, 20, 1};
         for (int i = 0; i < texts.length; i++) {
+            FareLimits x = twoFares();
             for (int what = 0; what < 4; what++) {
-                Due.is("replay " + texts[i], replay(x, texts[i], what), -100 - places[i]);
-                Due.is("byHand " + texts[i], byHand(x, texts[i], what), -100 - places[i]);
+                Due.is("replay " + texts[i], Calls.replay(x, texts[i], what), -100 - places[i]);
+                Due.is("byHand " + texts[i], Calls.byHand(x, texts[i], what), -100 - places[i]);
             }
             Due.is("the tape is empty behind " + texts[i], x.told(6), 0);
         }
-        Due.is("no fares: - alone may be", replay(new FareLimits(), "--", 2), 10);
-        Due.is("no fares: a", replay(new FareLimits(), "a", 2), -100);
+        Due.is("no fares: - alone may be", Calls.replay(new FareLimits(), "--", 2), 10);
+        Due.is("no fares: a", Calls.replay(new FareLimits(), "a", 2), -100);
     }
 
     // promises 30, 31
@@ -778,7 +751,7 @@ public final class PromisesTest {
         FareLimits x = new FareLimits();
         Due.is("spell nothing", x.spell(), 0);
         Due.is("paper 0", x.paper(0), -1);
-        book(x, "b=3:0100*05;a=012:7*0");
+        Calls.book(x, "b=3:0100*05;a=012:7*0");
         Due.is("the paper is as it was", x.told(7), 0);
         Due.is("spell", x.spell(), 17);
         String want = "a=012:7;b=3:100*5";
@@ -788,13 +761,13 @@ public final class PromisesTest {
         Due.is("paper 17", x.paper(17), -1);
         Due.is("paper -1", x.paper(-1), -1);
         Due.is("paper wild", x.paper(HIGH), -1);
-        ends(x, "a");
+        Calls.ends(x, "a");
         Due.is("the paper is as it was", x.told(7), 17);
         Due.is("spelled anew", x.spell(), 9);
         Due.is("paper 9", x.paper(9), -1);
         FareLimits y = new FareLimits();
         for (int i = 0; i < 12; i++) {
-            book(y, "ab" + (char) ('a' + i) + "=0123:9999*99");
+            Calls.book(y, "ab" + (char) ('a' + i) + "=0123:9999*99");
         }
         Due.is("the longest", y.spell(), 12 * 16 + 11);
         Due.is("its last byte", y.paper(202), '9');
@@ -895,16 +868,16 @@ public final class PromisesTest {
         x.rule(0, 5);
         x.hand(1, 2);
         x.hand(2, 3);
-        Due.is("cheaper ones count, of whatever fare", byHand(x, "dbbcca", 3), 1 | 2 | 8 | 32);
-        Due.is("prices", byHand(x, "dbbcca", 0), 100 + 100 + 200 + 300);
-        Due.is("how many", byHand(x, "dbbcca", 1), 4);
-        Due.is("left", byHand(x, "dbbcca", 2), 1);
-        Due.is("dearer ones don't count", byHand(x, "aaab", 3), 15);
-        Due.is("no seat is left", byHand(x, "aaaaaa", 3), 31);
-        Due.is("- is nobody", byHand(x, "a--b", 3), 9);
+        Due.is("cheaper ones count, of whatever fare", Calls.byHand(x, "dbbcca", 3), 1 | 2 | 8 | 32);
+        Due.is("prices", Calls.byHand(x, "dbbcca", 0), 100 + 100 + 200 + 300);
+        Due.is("how many", Calls.byHand(x, "dbbcca", 1), 4);
+        Due.is("left", Calls.byHand(x, "dbbcca", 2), 1);
+        Due.is("dearer ones don't count", Calls.byHand(x, "aaab", 3), 15);
+        Due.is("no seat is left", Calls.byHand(x, "aaaaaa", 3), 31);
+        Due.is("- is nobody", Calls.byHand(x, "a--b", 3), 9);
         x.hand(0, 0);
-        Due.is("a hand of 0", byHand(x, "aab", 3), 4);
-        feed(x, "a");
+        Due.is("a hand of 0", Calls.byHand(x, "aab", 3), 4);
+        Calls.tape(x, "a");
         Due.is("byHand what 4", x.byHand(4), -1);
         Due.is("byHand what -1", x.byHand(-1), -1);
         Due.is("the tape stays", x.told(6), 1);
@@ -1146,7 +1119,7 @@ public final class PromisesTest {
     private static void imageAndUndo() {
         FareLimits x = twoFares();
         Due.is("undo none", x.undo(), -3);
-        book(x, "a=0:1;b=1:2*3");
+        Calls.book(x, "a=0:1;b=1:2*3");
         x.hand(1, 7);
         x.leg(1, 0, 11);
         x.leg(2, 1, 22);
@@ -1169,9 +1142,9 @@ public final class PromisesTest {
         x.leg(1, 0, 12);
         x.leg(2, 1, 23);
         x.seed(100);
-        book(x, "c=2:3");
-        ends(x, "a");
-        ends(x, "b");
+        Calls.book(x, "c=2:3");
+        Calls.ends(x, "a");
+        Calls.ends(x, "b");
         Due.holds("another worth again", x.worth(3, 1) != worth);
         x.spell();
         x.feed(5);
@@ -1233,12 +1206,12 @@ public final class PromisesTest {
         for (int i = 0; i < 4; i++) {
             x.fare(i, 20 + i);
         }
-        book(x, "a=0:1;b=1:2*3");
+        Calls.book(x, "a=0:1;b=1:2*3");
         x.spell();
         x.tray(0, 1, 3);
         x.list(0, 3);
         x.set(0, 1, 44);
-        feed(x, "ab");
+        Calls.tape(x, "ab");
         String before = allOf(x);
         long[] refused = {x.fare(0, 5), x.fare(0, 0), x.fare(9, 9), x.odds(0, 0, 99), x.odds(6, 0, 1), x.rule(0, 31),
             x.rule(4, 1), x.leg(0, 0, 0), x.leg(0, 1, 100), x.leg(4, 0, 1), x.feed(0), x.feed(200), x.replay(5),
@@ -1252,7 +1225,7 @@ public final class PromisesTest {
         Due.same("what is refused changes nothing", allOf(x), before);
         Due.is("a text with a fault", x.book(), -102);
         Due.is("does nothing but empty the tape", x.told(6), 0);
-        feed(x, "ab");
+        Calls.tape(x, "ab");
         Due.same("and nothing else", allOf(x), before);
     }
 

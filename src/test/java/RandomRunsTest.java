@@ -1,14 +1,14 @@
-import java.lang.reflect.InvocationTargetException;
 import java.lang.reflect.Method;
-import java.util.ArrayList;
 import java.util.Arrays;
-import java.util.Comparator;
 import java.util.List;
 import java.util.Random;
 
-/** Drawn runs of calls, the same ones every time, on FareLimits and on the Reference. */
+/**
+ * Drawn runs of calls, the same ones every time, on FareLimits and on the Reference. What a run needs to know
+ * it asks of the Reference, so that FareLimits answers no more calls than the document tells of.
+ */
 public final class RandomRunsTest {
-    private static final int CALLS = 512;
+    private static final List<Method> FACE = Calls.face();
     private static final String[] TEXTS_READ = {"book", "book", "book", "ends", "replay", "byHand", "replay"};
 
     private final Random random;
@@ -23,7 +23,7 @@ public final class RandomRunsTest {
         this.random = new Random(run);
     }
 
-    public static void main(String[] args) throws Exception {
+    public static void main(String[] args) {
         int runs = args.length > 0 ? Integer.parseInt(args[0]) : 1500;
         for (int run = 0; run < runs && Due.wrong() == 0; run++) {
             new RandomRunsTest(run).go();
@@ -31,39 +31,16 @@ public final class RandomRunsTest {
         Due.end("RandomRunsTest");
     }
 
-    private static Method[] methods() {
-        Method[] methods = FareLimits.class.getDeclaredMethods();
-        List<Method> open = new ArrayList<>();
-        for (Method m : methods) {
-            if (java.lang.reflect.Modifier.isPublic(m.getModifiers())) {
-                open.add(m);
-            }
-        }
-        open.sort(Comparator.comparing(Method::getName));
-        return open.toArray(new Method[0]);
-    }
-
-    private static final Method[] FACE = methods();
-
-    private static Method named(String name) {
-        for (Method m : FACE) {
-            if (m.getName().equals(name)) {
-                return m;
-            }
-        }
-        throw new IllegalStateException(name);
-    }
-
-    private void go() throws Exception {
+    private void go() {
         begin();
-        while (calls < CALLS && Due.wrong() == 0) {
+        while (calls < Calls.MOST && Due.wrong() == 0) {
             int turn = random.nextInt(10);
             if (turn == 0) {
                 text();
             } else if (turn == 1) {
                 change();
             } else {
-                Method m = FACE[random.nextInt(FACE.length)];
+                Method m = FACE.get(random.nextInt(FACE.size()));
                 boolean seldom = m.getName().equals("drop") || m.getName().equals("undo");
                 if (!seldom || random.nextInt(6) == 0) {
                     call(m, numbers(m.getName()));
@@ -76,7 +53,7 @@ public final class RandomRunsTest {
     }
 
     /** Most runs begin with fares, odds and routes, so that there is something to ask about. */
-    private void begin() throws Exception {
+    private void begin() {
         int style = random.nextInt(8);
         if (style == 0) {
             return;
@@ -85,44 +62,44 @@ public final class RandomRunsTest {
         for (int f = 0; f < fares; f++) {
             int price = style == 1 ? 1 + random.nextInt(9) : random.nextBoolean()
                 ? 1 + random.nextInt(9999) : 10 * (1 + random.nextInt(60));
-            call(named("fare"), new Object[] {random.nextInt(4), price});
+            call(Calls.named("fare"), new Object[] {random.nextInt(4), price});
             for (int phase = 0; phase < 4; phase++) {
                 int odds = style == 2 ? 100 / fares : random.nextInt(1 + 140 / fares);
-                call(named("odds"), new Object[] {f, phase, odds});
+                call(Calls.named("odds"), new Object[] {f, phase, odds});
             }
         }
         if (style > 3) {
-            call(named("rule"), new Object[] {0, random.nextInt(31)});
-            call(named("rule"), new Object[] {1, random.nextInt(4) == 0 ? 50 : random.nextInt(20)});
-            call(named("rule"), new Object[] {2, random.nextInt(4) == 0 ? 50 : random.nextInt(30)});
+            call(Calls.named("rule"), new Object[] {0, random.nextInt(31)});
+            call(Calls.named("rule"), new Object[] {1, random.nextInt(4) == 0 ? 50 : random.nextInt(20)});
+            call(Calls.named("rule"), new Object[] {2, random.nextInt(4) == 0 ? 50 : random.nextInt(30)});
         }
         if (style > 5) {
             for (int i = 0; i < 3; i++) {
                 feed(bookText());
-                call(named("book"), new Object[0]);
+                call(Calls.named("book"), new Object[0]);
             }
         }
     }
 
-    private void change() throws Exception {
+    private void change() {
         switch (random.nextInt(7)) {
             case 0:
-                call(named("rule"), new Object[] {0, random.nextInt(31)});
+                call(Calls.named("rule"), new Object[] {0, random.nextInt(31)});
                 break;
             case 1:
-                call(named("rule"), new Object[] {1 + random.nextInt(2), random.nextInt(51)});
+                call(Calls.named("rule"), new Object[] {1 + random.nextInt(2), random.nextInt(51)});
                 break;
             case 2:
-                call(named("odds"), new Object[] {random.nextInt(6), random.nextInt(4), random.nextInt(60)});
+                call(Calls.named("odds"), new Object[] {random.nextInt(6), random.nextInt(4), random.nextInt(60)});
                 break;
             case 3:
-                call(named("hand"), new Object[] {random.nextInt(6), random.nextInt(5)});
+                call(Calls.named("hand"), new Object[] {random.nextInt(6), random.nextInt(5)});
                 break;
             case 4:
-                call(named("leg"), new Object[] {random.nextInt(4), 0, 1 + random.nextInt(9999)});
+                call(Calls.named("leg"), new Object[] {random.nextInt(4), 0, 1 + random.nextInt(9999)});
                 break;
             case 5:
-                call(named("leg"), new Object[] {random.nextInt(4), 1, random.nextInt(60)});
+                call(Calls.named("leg"), new Object[] {random.nextInt(4), 1, random.nextInt(60)});
                 break;
             default:
                 judgeWell();
@@ -131,21 +108,21 @@ public final class RandomRunsTest {
     }
 
     /** A list filled with true worths, perhaps but for one, is judged from its beginning on. */
-    private void judgeWell() throws Exception {
+    private void judgeWell() {
         int t = random.nextInt(21);
         int from = random.nextInt(4);
         int size = random.nextInt(32);
-        int seats = x.told(1);
-        call(named("list"), new Object[] {1, size});
+        int seats = due.told(1);
+        call(Calls.named("list"), new Object[] {1, size});
         int wrongPlace = random.nextInt(3) == 0 ? random.nextInt(32) : -1;
         for (int s = 0; s <= seats && from + s < size; s++) {
             long told = due.worth(t, s) + (s == wrongPlace ? 1 : 0);
-            call(named("set"), new Object[] {1, from + s, told});
+            call(Calls.named("set"), new Object[] {1, from + s, told});
         }
-        call(named("judge"), new Object[] {t, 1, from});
+        call(Calls.named("judge"), new Object[] {t, 1, from});
     }
 
-    private void text() throws Exception {
+    private void text() {
         String reader = TEXTS_READ[random.nextInt(TEXTS_READ.length)];
         String text;
         if (reader.equals("book")) {
@@ -159,16 +136,16 @@ public final class RandomRunsTest {
             text = spoiled(text);
         }
         if (random.nextInt(4) > 0) {
-            call(named("clear"), new Object[0]);
+            call(Calls.named("clear"), new Object[0]);
         }
         feed(text);
-        Object[] numbers = new Object[named(reader).getParameterCount()];
+        Object[] numbers = new Object[Calls.named(reader).getParameterCount()];
         Arrays.fill(numbers, random.nextInt(4));
-        call(named(reader), numbers);
+        call(Calls.named(reader), numbers);
     }
 
     private String requestsText() {
-        int fares = Math.max(1, x.told(0));
+        int fares = Math.max(1, due.told(0));
         int length = random.nextInt(22);
         StringBuilder text = new StringBuilder();
         for (int i = 0; i < length; i++) {
@@ -187,14 +164,14 @@ public final class RandomRunsTest {
     }
 
     private String knownName() {
-        int routes = x.told(5);
+        int routes = due.told(5);
         if (routes == 0) {
             return "a";
         }
         int i = random.nextInt(routes);
         StringBuilder name = new StringBuilder();
-        for (int k = 0; k < x.route(i, 4); k++) {
-            name.append((char) x.route(i, 10 + k));
+        for (int k = 0; k < due.route(i, 4); k++) {
+            name.append((char) due.route(i, 10 + k));
         }
         return name.toString();
     }
@@ -239,9 +216,9 @@ public final class RandomRunsTest {
             ? (char) (1 + random.nextInt(127)) : "abcfgz-=:;*`{/0123456789,".charAt(random.nextInt(25));
     }
 
-    private void feed(String text) throws Exception {
+    private void feed(String text) {
         for (char c : text.toCharArray()) {
-            call(named("feed"), new Object[] {(int) c});
+            call(Calls.named("feed"), new Object[] {(int) c});
         }
     }
 
@@ -250,17 +227,17 @@ public final class RandomRunsTest {
     }
 
     private int fareNumber() {
-        int fares = x.told(0);
+        int fares = due.told(0);
         return fares > 0 && random.nextInt(8) > 0 ? random.nextInt(fares) : upTo(5);
     }
 
     private int routeNumber() {
-        int routes = x.told(5);
+        int routes = due.told(5);
         return routes > 0 && random.nextInt(8) > 0 ? random.nextInt(routes) : upTo(12);
     }
 
     private int seatsNumber(int least) {
-        int seats = x.told(1);
+        int seats = due.told(1);
         return random.nextInt(10) == 0 ? upTo(31) : Math.min(seats, least + random.nextInt(seats + 1));
     }
 
@@ -270,7 +247,7 @@ public final class RandomRunsTest {
 
     private Object[] numbers(String name) {
         if (random.nextInt(60) == 0) {
-            return wild(named(name));
+            return wild(Calls.named(name));
         }
         switch (name) {
             case "fare": return new Object[] {upTo(3), random.nextInt(6) == 0 ? 9998 + upTo(1) : upTo(9999)};
@@ -297,7 +274,7 @@ public final class RandomRunsTest {
             case "cost": return new Object[] {upTo(3)};
             case "replay": return new Object[] {upTo(4)};
             case "byHand": return new Object[] {upTo(3)};
-            case "paper": return new Object[] {upTo(Math.max(0, x.told(7)))};
+            case "paper": return new Object[] {upTo(Math.max(0, due.told(7)))};
             case "told": return new Object[] {upTo(36)};
             case "demand": return new Object[] {fareNumber(), stage(), upTo(20)};
             case "spill": return new Object[] {fareNumber(), stage(), upTo(30)};
@@ -331,21 +308,13 @@ public final class RandomRunsTest {
         return numbers;
     }
 
-    private void call(Method m, Object[] numbers) throws Exception {
-        if (calls >= CALLS || Due.wrong() != 0) {
+    private void call(Method m, Object[] numbers) {
+        if (calls >= Calls.MOST || Due.wrong() != 0) {
             return;
         }
         calls++;
-        Method other = Reference.class.getMethod(m.getName(), m.getParameterTypes());
         story.append(' ').append(m.getName()).append(Arrays.toString(numbers));
-        try {
-            Number got = (Number) m.invoke(x, numbers);
-            Number want = (Number) other.invoke(due, numbers);
-            Due.is("run " + run + ", call " + calls + ": " + m.getName() + Arrays.toString(numbers),
-                got.longValue(), want.longValue());
-        } catch (InvocationTargetException e) {
-            e.getCause().printStackTrace();
-            Due.holds("run " + run + ": " + m.getName() + Arrays.toString(numbers) + " throws nothing", false);
-        }
+        Due.is("run " + run + ", call " + calls + ": " + m.getName() + Arrays.toString(numbers),
+            Calls.ask(x, m, numbers), Calls.ask(due, m, numbers));
     }
 }

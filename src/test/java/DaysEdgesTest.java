@@ -166,6 +166,12 @@ public final class DaysEdgesTest {
         Due.is("its last byte", x.paper(202), '9');
         Due.is("none behind it", x.paper(203), -1);
         Due.is("told", x.told(7), 203);
+        FareLimits wanted = new FareLimits();
+        Due.is("two", Calls.book(wanted, "a=0:0001*01;b=0:10*10"), 2);
+        Due.is("* told if wanted isn't 0, as short as can be", wanted.spell(), "a=0:1*1;b=0:10*10".length());
+        for (int i = 0; i < 17; i++) {
+            Due.is("byte " + i, wanted.paper(i), "a=0:1*1;b=0:10*10".charAt(i));
+        }
         FareLimits y = new FareLimits();
         Calls.book(y, "a=0:1");
         Due.is("no paper before it is spelled", y.told(7), 0);
@@ -243,6 +249,7 @@ public final class DaysEdgesTest {
 
     private static void trays() {
         FareLimits x = Sample.with(0, 5);
+        x.fare(0, 5);
         for (int tray = 0; tray < 4; tray++) {
             Due.is("missing", x.laid(tray, 0), -11);
             Due.is("missing", x.laid(tray, -1), -11);
@@ -252,16 +259,16 @@ public final class DaysEdgesTest {
         Due.is("of 20", x.tray(3, 0, 20), 1);
         for (int i = 0; i < 20; i++) {
             Due.is("empty " + i, x.laid(3, i), -5);
-            Due.is("lays " + i, x.lays(3, i, 0), 1);
-            Due.is("laid " + i, x.laid(3, i), 0);
+            Due.is("lays " + i, x.lays(3, i, 1), 1);
+            Due.is("laid " + i, x.laid(3, i), 1);
         }
         Due.is("no place 20", x.laid(3, 20), -12);
         Due.is("no place 20", x.lays(3, 20, 0), -12);
         Due.is("like it", x.like(0, 3), 20);
-        Due.is("its last place", x.laid(0, 19), 0);
+        Due.is("its last place", x.laid(0, 19), 1);
         Due.is("nothing at its last place", x.lays(0, 19, -1), 1);
         Due.is("empty", x.laid(0, 19), -5);
-        Due.is("the other one's stays", x.laid(3, 19), 0);
+        Due.is("the other one's stays", x.laid(3, 19), 1);
         Due.is("smaller", x.tray(3, 0, 19), 1);
         Due.is("place 18", x.laid(3, 18), -5);
         Due.is("no place 19", x.laid(3, 19), -12);

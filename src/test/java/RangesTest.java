@@ -24,6 +24,7 @@ public final class RangesTest {
         requestsAndDays();
         trays();
         lists();
+        corners();
         Due.end("RangesTest");
     }
 
@@ -217,5 +218,61 @@ public final class RangesTest {
         range("judge", row(3, 0, 0), 1, 0, 3, NONE);
         range("judge", row(3, 0, 0), 2, 0, 3, NO_PLACE);
         range("judge", row(3, 3, 0), 2, 0, 4, NO_PLACE);
+    }
+
+    /** Each way to choose the least or the most of each number, on objects at their ends, high and low. */
+    private static void corners() {
+        Object[][] calls = {{"of", row(0, 5), row(0, 5)}, {"odds", row(0, 5), row(0, 3), row(0, 100)},
+            {"rule", row(0, 3), row(0, 30)}, {"shows", row(0, 20)}, {"net", row(0, 5), row(0, 20)},
+            {"netCut", row(0, 5), row(0, 20)}, {"worth", row(0, 20), row(0, 30)},
+            {"worthShort", row(0, 20), row(0, 30)}, {"gross", row(0, 20), row(0, 30)},
+            {"taken", row(0, 5), row(1, 20), row(1, 30)}, {"kept", row(0, 5), row(1, 20)}, {"limit", row(0, 5), row(1, 20)},
+            {"chance", row(0, 20), row(0, 40), row(0, 40)}, {"turned", row(0, 20), row(0, 40)},
+            {"had", row(0, 5), row(0, 20), row(0, 40)}, {"booked", row(0, 5), row(0, 20)},
+            {"ways", row(0, 40), row(0, 40), row(0, 100)}, {"leg", row(0, 3), row(0, 1), row(1, 99)},
+            {"leg", row(0, 3), row(0, 0), row(1, 9999)}, {"leg", row(0, 3), row(1, 1), row(0, 99)},
+            {"route", row(0, 11), row(0, 4)}, {"route", row(0, 11), row(10, 12)}, {"route", row(0, 11), row(1, 3)},
+            {"part", row(0, 11), row(0, 3)}, {"cost", row(0, 3)}, {"paper", row(0, 202)}, {"paper", row(201, 203)},
+            {"told", row(0, 9)}, {"told", row(10, 13)}, {"told", row(20, 23)}, {"told", row(30, 35)},
+            {"demand", row(0, 5), row(0, 20), row(0, 20)}, {"spill", row(0, 5), row(0, 20), row(0, 30)},
+            {"hand", row(0, 5), row(0, 30)}, {"drawn", row(1, 20), row(1, 20), row(0, 1), row(0, 3)},
+            {"drawn", row(19, 20), row(19, 20), row(0, 1), row(1, 2)}, {"seed", row(LOW, HIGH)},
+            {"lays", row(0, 3), row(0, 19), row(-1, 5)}, {"laid", row(0, 3), row(0, 19)},
+            {"tray", row(0, 3), row(0, 3), row(0, 20)}, {"like", row(0, 3), row(0, 3)}, {"list", row(0, 3), row(0, 31)},
+            {"set", row(0, 3), row(0, 30), row(NO, Long.MAX_VALUE)}, {"get", row(0, 3), row(0, 30)},
+            {"judge", row(0, 20), row(0, 3), row(0, 31)}, {"judge", row(0, 20), row(0, 3), row(30, 32)}};
+        for (Object[] call : calls) {
+            corners(call, true);
+            corners(call, false);
+        }
+        for (String text : new String[] {"ffffffffffffffffffff", "--------------------", "abcdefabcdefabcdef-f"}) {
+            requests(text, true);
+            requests(text, false);
+        }
+    }
+
+    private static void requests(String text, boolean isHigh) {
+        FareLimits x = Sample.ofEnds(new FareLimits(), isHigh);
+        Reference due = Sample.ofEnds(new Reference(), isHigh);
+        for (int what = 0; what < 9; what++) {
+            String name = what < 5 ? "replay" : "byHand";
+            Calls.feed(x, text);
+            Calls.feed(due, text);
+            Due.is(name + what + " of " + text, Calls.ask(x, name, what % 5), Calls.ask(due, name, what % 5));
+        }
+    }
+
+    private static void corners(Object[] call, boolean isHigh) {
+        FareLimits x = Sample.ofEnds(new FareLimits(), isHigh);
+        Reference due = Sample.ofEnds(new Reference(), isHigh);
+        String name = (String) call[0];
+        for (int way = 0; way < 1 << call.length - 1; way++) {
+            long[] numbers = new long[call.length - 1];
+            for (int i = 0; i < numbers.length; i++) {
+                numbers[i] = ((long[]) call[i + 1])[way >> i & 1];
+            }
+            Due.is((isHigh ? "high: " : "low: ") + Calls.written(name, numbers), Calls.ask(x, name, numbers),
+                Calls.ask(due, name, numbers));
+        }
     }
 }

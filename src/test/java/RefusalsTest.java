@@ -14,6 +14,7 @@ public final class RefusalsTest {
         asked();
         onlyThePaper();
         onlyTheTape();
+        withoutNumbers();
         textsWithFaults();
         Due.end("RefusalsTest");
     }
@@ -70,6 +71,9 @@ public final class RefusalsTest {
         refused(-11, "lays", 2, 0, -1);
         refused(-12, "lays", 3, 3, 0);
         refused(-12, "lays", 3, -1, 0);
+        refused(-12, "lays", 3, 3, -1);
+        refused(-12, "lays", 0, 2, -1);
+        refused(-12, "lays", 0, -1, -1);
         refused(-16, "lays", 3, 0, 0);
         refused(-1, "laid", 4, -1);
         refused(-11, "laid", 1, -1);
@@ -212,6 +216,28 @@ public final class RefusalsTest {
         x.clear();
         Due.is("nothing to clear", x.clear(), 0);
         Due.same("clear changes but the tape", Sample.all(x), empty);
+    }
+
+    /** What each call without numbers leaves behind, and each two of them, one behind the other. */
+    private static void withoutNumbers() {
+        String[] names = {"drop", "clear", "book", "ends", "spell", "image", "undo"};
+        String[] texts = {"ab-", "ab", "c=0:5*1;d=123:6"};
+        for (String text : texts) {
+            for (String one : names) {
+                for (String two : names) {
+                    FareLimits x = Sample.filled(new FareLimits());
+                    Reference due = Sample.filled(new Reference());
+                    for (Object each : new Object[] {x, due}) {
+                        Calls.ask(each, "clear");
+                        Calls.feed(each, text);
+                    }
+                    String written = text + ": " + one + ", " + two;
+                    Due.is(written, Calls.ask(x, one), Calls.ask(due, one));
+                    Due.is(written + " then", Calls.ask(x, two), Calls.ask(due, two));
+                    Due.same("all behind " + written, Sample.all(x), Sample.all(due));
+                }
+            }
+        }
     }
 
     /** "A text with a FAULT does nothing", and THE TAPE is empty behind it. */

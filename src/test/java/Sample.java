@@ -43,6 +43,34 @@ final class Sample {
         return x;
     }
 
+    /** All numbers as high as they can be, or as low. */
+    static <T> T ofEnds(T x, boolean isHigh) {
+        for (int i = 0; i < 6; i++) {
+            Calls.ask(x, "fare", isHigh ? 3 - i % 4 : i % 4, isHigh ? 9999 - i : 1 + i);
+            Calls.ask(x, "hand", i, isHigh ? 30 : 0);
+            for (int phase = 0; phase < 4; phase++) {
+                Calls.ask(x, "odds", i, phase, isHigh ? i == 5 ? 50 : 10 : i == phase ? 1 : 0);
+            }
+        }
+        long[] rules = isHigh ? new long[] {30, 50, 50, 9999} : new long[] {0, 0, 0, 0};
+        for (int i = 0; i < 4; i++) {
+            Calls.ask(x, "rule", i, rules[i]);
+            Calls.ask(x, "leg", i, 0, isHigh ? 9999 - i : 1);
+            Calls.ask(x, "leg", i, 1, isHigh ? 99 : 0);
+            Calls.ask(x, "tray", i, isHigh ? 0 : 3, isHigh ? 20 : 0);
+            Calls.ask(x, "list", i, isHigh ? 31 : 0);
+        }
+        for (int i = 0; i < 12; i++) {
+            char c = (char) ('a' + i);
+            Calls.feed(x, isHigh ? "zz" + c + "=0123:9999*" + (i < 9 ? 9 : 99) : c + "=" + i % 4 + ":1");
+            Calls.ask(x, "book");
+        }
+        Calls.ask(x, "spell");
+        Calls.ask(x, "seed", isHigh ? Integer.MAX_VALUE : Integer.MIN_VALUE);
+        Calls.ask(x, "image");
+        return x;
+    }
+
     static FareLimits with(int kind, int price, int... odds) {
         FareLimits x = new FareLimits();
         more(x, kind, price, odds);

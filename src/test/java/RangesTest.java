@@ -227,20 +227,22 @@ public final class RangesTest {
             {"netCut", row(0, 5), row(0, 20)}, {"worth", row(0, 20), row(0, 30)},
             {"worthShort", row(0, 20), row(0, 30)}, {"gross", row(0, 20), row(0, 30)},
             {"taken", row(0, 5), row(1, 20), row(1, 30)}, {"kept", row(0, 5), row(1, 20)},
-            {"limit", row(0, 5), row(1, 20)}, {"chance", row(0, 20), row(0, 40), row(0, 40)}, {"turned", row(0, 20), row(0, 40)},
-            {"had", row(0, 5), row(0, 20), row(0, 40)}, {"booked", row(0, 5), row(0, 20)},
-            {"ways", row(0, 40), row(0, 40), row(0, 100)}, {"leg", row(0, 3), row(0, 1), row(1, 99)},
-            {"leg", row(0, 3), row(0, 0), row(1, 9999)}, {"leg", row(0, 3), row(1, 1), row(0, 99)},
-            {"route", row(0, 11), row(0, 4)}, {"route", row(0, 11), row(10, 12)}, {"route", row(0, 11), row(1, 3)},
-            {"part", row(0, 11), row(0, 3)}, {"cost", row(0, 3)}, {"paper", row(0, 202)}, {"paper", row(201, 203)},
-            {"told", row(0, 9)}, {"told", row(10, 13)}, {"told", row(20, 23)}, {"told", row(30, 35)},
+            {"limit", row(0, 5), row(1, 20)}, {"chance", row(0, 20), row(0, 40), row(0, 40)},
+            {"turned", row(0, 20), row(0, 40)}, {"had", row(0, 5), row(0, 20), row(0, 40)},
+            {"booked", row(0, 5), row(0, 20)}, {"ways", row(0, 40), row(0, 40), row(0, 100)},
+            {"leg", row(0, 3), row(0, 1), row(1, 99)}, {"leg", row(0, 3), row(0, 0), row(1, 9999)},
+            {"leg", row(0, 3), row(1, 1), row(0, 99)}, {"route", row(0, 11), row(0, 4)},
+            {"route", row(0, 11), row(10, 12)}, {"route", row(0, 11), row(1, 3)}, {"part", row(0, 11), row(0, 3)},
+            {"cost", row(0, 3)}, {"paper", row(0, 202)}, {"paper", row(201, 203)}, {"told", row(0, 9)},
+            {"told", row(10, 13)}, {"told", row(20, 23)}, {"told", row(30, 35)},
             {"demand", row(0, 5), row(0, 20), row(0, 20)}, {"spill", row(0, 5), row(0, 20), row(0, 30)},
             {"hand", row(0, 5), row(0, 30)}, {"drawn", row(1, 20), row(1, 20), row(0, 1), row(0, 3)},
             {"drawn", row(19, 20), row(19, 20), row(0, 1), row(1, 2)}, {"seed", row(LOW, HIGH)},
             {"lays", row(0, 3), row(0, 19), row(-1, 5)}, {"laid", row(0, 3), row(0, 19)},
-            {"tray", row(0, 3), row(0, 3), row(0, 20)}, {"like", row(0, 3), row(0, 3)}, {"list", row(0, 3), row(0, 31)},
-            {"set", row(0, 3), row(0, 30), row(NO, Long.MAX_VALUE)}, {"get", row(0, 3), row(0, 30)},
-            {"judge", row(0, 20), row(0, 3), row(0, 31)}, {"judge", row(0, 20), row(0, 3), row(30, 32)}};
+            {"tray", row(0, 3), row(0, 3), row(0, 20)}, {"like", row(0, 3), row(0, 3)},
+            {"list", row(0, 3), row(0, 31)}, {"set", row(0, 3), row(0, 30), row(NO, Long.MAX_VALUE)},
+            {"get", row(0, 3), row(0, 30)}, {"judge", row(0, 20), row(0, 3), row(0, 31)},
+            {"judge", row(0, 20), row(0, 3), row(30, 32)}};
         for (Object[] call : calls) {
             corners(call, true);
             corners(call, false);

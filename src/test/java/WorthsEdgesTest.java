@@ -18,6 +18,7 @@ public final class WorthsEdgesTest {
         keptAndLimit();
         grossAtTheEdge();
         grossNeeds();
+        grossGreatest();
         chances();
         turnedAndHad();
         bookedBest();
@@ -315,6 +316,25 @@ public final class WorthsEdgesTest {
         Due.is("noshows don't count", y.rule(2, 50), 0);
         Due.is("prices alone count", y.gross(2, 1), 100L * 400 + 50 * (500 - 400));
         Due.is("but for worths they do", y.worth(1, 1) == bits(4.0) ? 1 : 0, 0);
+    }
+
+    /** Fares that were searched for: their GROSS is the greatest long itself, which is not beyond a long. */
+    private static void grossGreatest() {
+        int[][] prices = {{176, 255, 256, 654, 1553, 1554}, {510, 671, 672, 803, 1169, 1170}};
+        int[][] early = {{1, 29, 42, 0, 0, 0}, {24, 29, 42, 0, 0, 0}};
+        int[][] late = {{0, 0, 0, 18, 8, 11}, {0, 0, 0, 18, 2, 17}};
+        for (int i = 0; i < prices.length; i++) {
+            FareLimits x = new FareLimits();
+            for (int f = 0; f < 6; f++) {
+                Sample.more(x, 0, prices[i][f], early[i][f], late[i][f]);
+            }
+            Due.is("the greatest long", x.gross(8, 1), Long.MAX_VALUE);
+            Due.is("100 times that", x.gross(9, 1), -6);
+            x.odds(5, 1, late[i][5] + 1);
+            Due.is("more than the greatest long", x.gross(8, 1), -6);
+            x.odds(5, 1, late[i][5] - 1);
+            Due.holds("less than the greatest long", x.gross(8, 1) > Long.MAX_VALUE / 2);
+        }
     }
 
     // ---- 3
